@@ -237,7 +237,7 @@ public final class DoubledBridge {
         if (over == null || !isIn(n, 0, MOST_CROSSINGS)) {
             return BAD;
         }
-        int least = leastFor(over, 0, n);
+        int least = leastAheadAll(over, 0, n);
         return least < 0 ? NONE : least;
     }
 
@@ -290,8 +290,8 @@ public final class DoubledBridge {
         }
         // Who has more ahead never has less behind: so those asked for stand side by side,
         // from the least that reaches the purse to the least that reaches more.
-        int from = leastFor(over, purse, n);
-        int to = leastFor(over, purse + 1, n);
+        int from = leastAheadAll(over, purse, n);
+        int to = leastAheadAll(over, purse + 1, n);
         int found = from < 0 || to < from ? 0 : to - from;
         if (i == -1) {
             return found;
@@ -402,7 +402,7 @@ public final class DoubledBridge {
         }
         long alone = over.becomes(purse);
         long together = over.becomes(purse + loan);
-        if (alone < 0 || loan == 0) {
+        if (alone < 0) {
             return NONE;
         }
         return (int) ((together - alone - loan) * HUNDRED / loan) + RATE_BASE;
@@ -758,10 +758,10 @@ public final class DoubledBridge {
     }
 
     /** The least purse that is a goal or more behind n crossings. */
-    private static int leastFor(Bridge over, int goal, int n) {
+    private static int leastAheadAll(Bridge over, int goal, int n) {
         int least = goal;
         for (int i = 0; i < n && least >= 0; i++) {
-            least = over.leastFor(least);
+            least = over.leastAhead(least);
         }
         return least;
     }
@@ -869,7 +869,7 @@ public final class DoubledBridge {
 
     private int leastAheadOf(int b, int goal) {
         Bridge over = now.bridgeAt(b);
-        return over == null ? CANNOT : over.leastFor(goal);
+        return over == null ? CANNOT : over.leastAhead(goal);
     }
 
     private static int lesser(int one, int other) {
@@ -1003,7 +1003,7 @@ public final class DoubledBridge {
         }
 
         /** The least purse that becomes a goal or more. */
-        int leastFor(int goal) {
+        int leastAhead(int goal) {
             if (!open || goal < 0) {
                 return CANNOT;
             }
@@ -1430,9 +1430,8 @@ public final class DoubledBridge {
 
     /** Reads the text of a law: one NAME, NUMBER or other byte (a token) at a time. */
     private static final class LawReader {
-        static final int END = 0, NAME = 1, NUMBER = 2, OTHER = 3;
+        static final int END = 0, NAME = 1, NUMBER = 2, OTHER = 3, BLANK = 4;
         private static final int NO_VALUE = -9;
-        private static final int BLANK = 32;
 
         final Law law = new Law();
         int fault = 0;
@@ -1444,12 +1443,12 @@ public final class DoubledBridge {
 
         LawReader(int[] text, int size) {
             this.text = text;
-            this.size = Math.max(0, Math.min(size, text.length));
+            this.size = size;
         }
 
         void next() {
             start = end;
-            while (start < size && byteAt(start) == BLANK) {
+            while (start < size && sortAt(start) == BLANK) {
                 start++;
             }
             sort = sortAt(start);
@@ -1637,8 +1636,8 @@ public final class DoubledBridge {
                 return -1;
             }
             int number = 0;
-            for (int i = start; i < end; i++) {
-                number = number * 10 + byteAt(i) - '0';
+            for (int i = start; i >= 0 && i < end && i < text.length; i++) {
+                number = number * 10 + text[i] - '0';
             }
             return number;
         }
@@ -1648,7 +1647,8 @@ public final class DoubledBridge {
                 return false;
             }
             for (int i = 0; i < name.length(); i++) {
-                if (byteAt(start + i) != name.charAt(i)) {
+                int place = start + i;
+                if (place < 0 || place >= text.length || text[place] != name.charAt(i)) {
                     return false;
                 }
             }
@@ -1656,22 +1656,21 @@ public final class DoubledBridge {
         }
 
         private boolean isByte(char sign) {
-            return sort == OTHER && byteAt(start) == sign;
+            return sort == OTHER && start >= 0 && start < text.length && text[start] == sign;
         }
 
         private int sortAt(int place) {
-            int c = byteAt(place);
-            if (c < 0) {
+            if (place < 0 || place >= size || place >= text.length) {
                 return END;
             }
+            int c = text[place];
             if (c >= 'a' && c <= 'z') {
                 return NAME;
             }
-            return c >= '0' && c <= '9' ? NUMBER : OTHER;
-        }
-
-        private int byteAt(int place) {
-            return place >= 0 && place < size && place < text.length ? text[place] : -1;
+            if (c >= '0' && c <= '9') {
+                return NUMBER;
+            }
+            return c == ' ' ? BLANK : OTHER;
         }
     }
 }
