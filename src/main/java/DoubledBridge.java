@@ -952,16 +952,15 @@ public final class DoubledBridge {
         int feast;
         int timesNow;
         int tollNow;
-        boolean open = true;
+        boolean open;
 
+        /** As told; what it is now is for settle() or suppose() to say. */
         Bridge(int kind, int number, int times, int toll, int feast) {
             this.kind = kind;
             this.number = number;
             this.times = times;
             this.toll = toll;
             this.feast = feast;
-            this.timesNow = times;
-            this.tollNow = toll;
         }
 
         Bridge twin() {

@@ -283,7 +283,7 @@ public final class PromiseTests {
             "egg if kind=1 free;", "egg if 1<2 not 1<2 free;", "egg shut;;", "egg shut;x", "egg shut; 5",
             "egg if(1<2)or(1<2)and not(1<2)free;", "egg if () free;", "egg 12345;", "12345", "egg dear -1;",
             "egg if day<times free; plain shut", "egg if 1<2 and", "egg if (", "egg if not", "egg if 1", "egg dear",
-            "eggfree;", "egg free;egg", "egg if dayday<1 free;", "egg if 1<2andday=1 free;", "egg if day<1and day=1 free;"};
+            "eggfree;", "eggz free;", "zegg free;", "aegg free;", "egg free;egg", "egg if dayday<1 free;", "egg if 1<2andday=1 free;", "egg if day<1and day=1 free;"};
         int[] answer = {-103, -104, -108, 1, -104, -100, -100, -100,
             -108, -109, 1, -109, 1, -111,
             -107, -109, -109, -110, -111, -109,
@@ -293,7 +293,7 @@ public final class PromiseTests {
             -107, -111, -109, -109, -110,
             1, -108, -104, -100, -109,
             -133, -114, -108, -110, -108, -108,
-            -100, -112, -107, -110, 1};
+            -100, -100, -100, -100, -112, -107, -110, 1};
         for (int i = 0; i < text.length; i++) {
             DoubledBridge x = five();
             due(text[i], told(x, text[i]), answer[i]);
@@ -414,6 +414,16 @@ public final class PromiseTests {
         x.purse(1, 500000000);
         due("great purses", x.pool(0, 1, 0), 444444444);
         due("the rest of it", x.personOf(1, 0), 555555556);
+        x.change(0, 2, 0);
+        x.purse(0, 0);
+        x.purse(1, 0);
+        due("both nothing, without a toll", x.pool(0, 1, 0), -4);
+        x.purse(1, 1);
+        due("next to nothing", x.pool(0, 1, 0), 0);
+        x.change(0, 2, 2);
+        due("to nothing", x.pool(1, 0, 0), 2);
+        x.purse(1, 1);
+        due("to nothing at all", x.pool(1, 0, 0), 0);
 
         promise = 14;
         x = five();
@@ -768,6 +778,21 @@ public final class PromiseTests {
         due("bridge 5", x.meet(0, 1, 0, 5), -1);
         due("bridge -1", x.meet(0, 1, -1, 0), -1);
         due("nobody crossed", x.personOf(0, 1), 0);
+        x = new DoubledBridge();
+        x.bridge(1, 1, 1, 0);
+        x.bridge(1, 1, 2, 0);
+        x.person(1000);
+        x.person(1060);
+        due("behind 60", x.meet(0, 1, 0, 1), 60);
+        due("behind 60", x.meet(1, 0, 1, 0), 60);
+        x.purse(1, 1061);
+        due("not in 60", x.meet(0, 1, 0, 1), -3);
+        x.change(0, 2, 0);
+        x.change(1, 2, 4);
+        x.purse(0, 2);
+        x.purse(1, 8);
+        due("one comes to nothing", x.meet(0, 1, 0, 1), 2);
+        due("one comes to nothing", x.meet(1, 0, 1, 0), 2);
     }
 
     private static void tales() {
@@ -851,6 +876,16 @@ public final class PromiseTests {
         x.tale(10, 13);
         due("either", x.liar(1), 0);
         due("the odd one", x.liar(4), 1);
+        x.forget();
+        x.tale(1000, 1);
+        x.tale(2000, 1001);
+        x.tale(3000, 5);
+        due("by the greatest toll", x.liar(1), 2);
+        x.forget();
+        x.tale(100, 899);
+        x.tale(200, 1799);
+        x.tale(300, 5);
+        due("by the most times", x.liar(1), 2);
         due("kind 0", x.liar(0), -1);
         due("kind 3", x.liar(3), -1);
         due("kind 5", x.liar(5), -1);
@@ -1000,6 +1035,7 @@ public final class PromiseTests {
         x.purse(0, 3);
         due("what cross refuses", x.walks(0, 0, 0, 2), 1);
         due("purse", x.personOf(0, 0), 4);
+        due("crossed to nothing", x.walks(0, 0, 0, 1), 1);
     }
 
     private static void shelves() {
