@@ -246,6 +246,7 @@ public final class CrossingSentenceTests extends Sentences {
             due("the only one: " + i, x.order(20, 31, i), first[i]);
             due("all make the most: " + i, x.order(MOST, 31, i), i);
         }
+        due("the most, and it stays", road(PLAIN, 1, 0, 0, PLAIN, 1, 0, 0).order(MOST, 3, 0), 0);
         x = road(PLAIN, 1, 1, 0, PLAIN, 1, 0, 0, PLAIN, 2, 0, 0, PLAIN, 1, 0, 0);
         first = new int[] {1, 2, 0, 3};
         for (int i = 0; i < 4; i++) {
@@ -325,8 +326,12 @@ public final class CrossingSentenceTests extends Sentences {
         due("two: the least number first", x.by(20, 90, 0), 0);
         due("two: then the only one", x.by(20, 90, 1), 2);
         due("two: then the least number", x.by(20, 55, 1), 0);
+        x = road(PLAIN, 9, 999, 0, PLAIN, 2, 0, 0);
+        due("what can be crossed only then", x.by(100, 801, 1), 0);
+        due("and what comes ahead of it", x.by(100, 801, 0), 1);
 
         says("FAST (goal 0 to 1000000000). BAD; NONE: not in 60.");
+        x = five();
         due("goal 0", x.fast(0, 0), 0);
         due("goal 1000000000", x.fast(500000004, MOST), 1);
         for (int v : NO_PURSE) {

@@ -81,6 +81,8 @@ public final class HostSentenceTests extends Sentences {
         due("no first TOLL", x.fits(PLAIN, 2), NONE);
         due("an odd coin", x.fits(EGG, 0), 0);
         due("one more TALE must agree, too", told(10, 12, 20, 32).fits(PLAIN, 0), 1);
+        due("the first by TIMES", told(10, 12).fits(EGG, 1), 2);
+        due("then by TOLL", told(10, 12).fits(EGG, 2), 7);
 
         says("A guess of KIND 1, 2 or 4: TIMES and TOLL by which each from BECOMES its to (no LAW asked).");
         x = told(1000, 1);
@@ -88,8 +90,10 @@ public final class HostSentenceTests extends Sentences {
         due("no TOLL 1000", told(1001, 1).fits(PLAIN, 0), 0);
         due("TIMES 9", told(11111, 99999).fits(PLAIN, 1), 9);
         due("no TIMES 10", told(10, 100).fits(PLAIN, 0), 0);
-        due("none from 0 but to 0", told(0, 0).fits(STREAM, 0), 9);
-        due("none from 0 to 1", told(0, 1).fits(PLAIN, 0), 0);
+        due("no TIMES 0", told(5, 0, 7, 0).fits(PLAIN, 0), 0);
+        due("no TOLL -1", told(10, 11, 20, 21).fits(PLAIN, 0), 0);
+        due("from 0 to 0", told(0, 0).fits(STREAM, 0), 9);
+        due("from 0 to 1", told(0, 1).fits(PLAIN, 0), 0);
         due("can't be crossed", told(5, 0).fits(STREAM, 0), 9);
         due("to 0 by the odd coin, too", told(5, 0).fits(EGG, 0), 18);
         x = told(10, 12);
@@ -105,6 +109,12 @@ public final class HostSentenceTests extends Sentences {
         due("but for that none would", told(10, 12, 10, 13).liar(EGG), 1);
         due("of six the last", told(10, 12, 20, 32, 30, 52, 40, 72, 50, 92, 60, 99999).liar(PLAIN), 5);
         due("the only one", told(0, 1).liar(PLAIN), 0);
+        due("but for it TIMES 9, TOLL 999", told(200, 801, 300, 1701, 400, 5).liar(PLAIN), 2);
+        due("but for it TIMES 1, TOLL 0", told(200, 200, 300, 300, 400, 5).liar(PLAIN), 2);
+        due("there are no TIMES 0", told(5, 0, 7, 0).liar(PLAIN), 0);
+        due("there are no TIMES 10", told(10, 100, 20, 200, 30, 5).liar(PLAIN), NONE);
+        due("there is no TOLL 1000", told(2000, 1000, 3000, 2000, 4000, 5).liar(PLAIN), NONE);
+        due("there is no TOLL -1", told(10, 11, 20, 21, 30, 5).liar(PLAIN), NONE);
 
         says("LIAR by guesses of a KIND. BAD; NONE: some agree with all; or there is no such TALE.");
         due("all agree", told(10, 12, 20, 32).liar(PLAIN), NONE);
@@ -380,6 +390,8 @@ public final class HostSentenceTests extends Sentences {
         x = walker(0, 0, 0, 0, 0, 0, 0, 0, 0, 0, 0, 0, 0, 0, 0, 0, 0, 0, 0, 0, 0);
         due("n 20", x.walks(0, 0, 1, 20), 20);
         due("CROSSED", x.personOf(0, 1), 20);
+        x.sheet(3, 0, 1);
+        due("of the last SHEET", x.walks(0, 3, 0, 1), 1);
         x = walker(0, 0, 0, 1);
         x.purse(0, 6);
         due("what can't be crossed is left out", x.walks(0, 0, 0, 4), 2);

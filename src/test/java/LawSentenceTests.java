@@ -7,6 +7,8 @@ public final class LawSentenceTests extends Sentences {
         clauses();
         deeds();
         conditions();
+        conditionsWithin();
+        longest();
         signs();
         facts();
         names();
@@ -14,6 +16,8 @@ public final class LawSentenceTests extends Sentences {
         blanks();
         parentheses();
         faults();
+        whatCanStand();
+        letters();
         faultsOfNumbers();
         theEnd();
         end();
@@ -191,14 +195,40 @@ public final class LawSentenceTests extends Sentences {
                 }
             }
         }
-        StringBuilder many = new StringBuilder("0=1");
-        while (many.length() + 6 < 180) {
-            many.append(" or 0=1");
-        }
-        holds(many.toString(), false);
-        holds("not " + many, true);
         holds(times(40, "not ") + "0=0", true);
         holds(times(41, "not ") + "0=0", false);
+    }
+
+    private static void conditionsWithin() {
+        says("ALL: ONE { and ONE } ONE: { not } ( VALUE SIGN VALUE | \"(\" COND \")\" )");
+        // Each way to put and, or between five answers, one within the other.
+        for (int way = 0; way < 16; way++) {
+            for (int answers = 0; answers < 32; answers++) {
+                StringBuilder cond = new StringBuilder();
+                for (int i = 0; i < 4; i++) {
+                    cond.append((answers >> i & 1) == 1 ? "1=1" : "1=2").append((way >> i & 1) == 1 ? " and " : " or ");
+                    cond.append(i < 3 ? "(" : "");
+                }
+                boolean want = (answers >> 4 & 1) == 1;
+                cond.append(want ? "1=1" : "1=2").append(")))");
+                for (int i = 3; i >= 0; i--) {
+                    boolean one = (answers >> i & 1) == 1;
+                    want = (way >> i & 1) == 1 ? one && want : one || want;
+                }
+                holds(cond.toString(), want);
+            }
+        }
+    }
+
+    private static void longest() {
+        says("THE TAPE takes bytes, 200 at most");
+        String none = "egg if 0=1" + times(36, "or0=1");
+        DoubledBridge x = five();
+        due("200 bytes, none holds", law(x, none + "or9=8shut;"), 1);
+        due("open", x.bridgeOf(2, 6), 1);
+        due("200 bytes, only the last holds", law(x, none + "or9=9shut;"), 1);
+        due("shut", x.bridgeOf(2, 6), 0);
+        due("a byte more", feed(x, none + "or9=8shut; "), FULL);
     }
 
     private static void signs() {
@@ -212,6 +242,10 @@ public final class LawSentenceTests extends Sentences {
         holds("4>5", false);
         holds("5>5", false);
         holds("6>5", true);
+        for (int n = 0; n <= 20; n++) {
+            holds(n + "<" + (n + 1), true);
+            holds(n + ">" + (n + 1), false);
+        }
         fault("egg if 4<=5 shut;", 9);
         fault("egg if 4==5 shut;", 9);
         fault("egg if 4;5 shut;", 8);
@@ -357,6 +391,10 @@ public final class LawSentenceTests extends Sentences {
         fault("egg if 1=1 not 1=1 free;", 11);
         fault("egg if 1=1 if 1=1 free;", 11);
         fault("egg if 1=1 and free;", 15);
+        fault("egg if 1=1 or free;", 14);
+        fault("egg if (free;", 8);
+        fault("egg if (1=1 or free;", 15);
+        fault("egg if ((1=1) free;", 14);
         fault("egg if 1=1 or or 1=1 free;", 14);
         fault("egg if 1=1 and or 1=1 free;", 15);
         fault("egg if (1=1 free;", 12);
@@ -371,6 +409,52 @@ public final class LawSentenceTests extends Sentences {
         fault("egg free;free;", 9);
         fault("egg free; 7", 10);
         fault("egg dear 1 if 1=1;", 11);
+    }
+
+    /** Behind each beginning: what can stand there; all else is the FAULT. */
+    private static void whatCanStand() {
+        says("the first byte of the first NAME, NUMBER or other byte that can't stand there");
+        String kinds = " bridge plain stream mill egg market ";
+        String deeds = " free dear double shut ";
+        String values = " day times toll feast number 0 7 999 1000 9999 ";
+        String one = values + " not ( ";
+        String[][] behind = {{"", kinds}, {"egg ", deeds + " if "}, {"egg if ", one}, {"egg if not ", one}, {"egg if not not ", one},
+            {"egg if ( ", one}, {"egg if ((", one}, {"egg if (((", values + " not "}, {"egg if 1 ", " < = > "},
+            {"egg if day", " < = > "}, {"egg if 1<", values}, {"egg if day = ", values}, {"egg if 1<2 ", deeds + " and or "},
+            {"egg if (1<2 ", " and or ) "}, {"egg if (1<2) ", deeds + " and or "}, {"egg if ((1<2) ", " and or ) "},
+            {"egg if 1<2 and ", one}, {"egg if 1<2 or ", one}, {"egg if (1<2 or ", one}, {"egg if (1<2 or not ", one},
+            {"egg if (((1<2 and ", values + " not "}, {"egg if (((1<2) or ", one}, {"egg free ", " ; "}, {"egg shut", " ; "},
+            {"egg double ", " ; "}, {"egg if 1<2 free ", " ; "}, {"egg dear ", " 0 7 999 "}, {"egg dear 7 ", " ; "}, {"egg free;", kinds},
+            {"egg free; egg ", deeds + " if "}};
+        String[] all = (kinds + deeds + values + " if not and or x bridges 1000 10000 < = > ( ) ; ? , . -").trim().split(" +");
+        for (String[] state : behind) {
+            for (String word : all) {
+                // A blank, lest it runs together with what stands ahead.
+                String text = state[0] + (state[0].matches(".*[a-z0-9]") ? " " : "") + word;
+                int answer = law(five(), text);
+                boolean stands = state[1].contains(" " + word + " ");
+                boolean isWhole = stands && word.equals(";");
+                due("'" + text + "'", answer, isWhole ? 1 : -100 - (stands ? text.length() : text.length() - word.length()));
+            }
+        }
+    }
+
+    private static void letters() {
+        says("NAMES are rows of letters a to z");
+        String[][] texts = {{"", "bridge", " free;"}, {"", "plain", " free;"}, {"", "stream", " free;"}, {"", "mill", " free;"},
+            {"", "egg", " free;"}, {"", "market", " free;"}, {"egg ", "free", ";"}, {"egg ", "dear", " 1;"}, {"egg ", "double", ";"},
+            {"egg ", "shut", ";"}, {"egg ", "if", " 1=1 free;"}, {"egg if ", "not", " 1=1 free;"}, {"egg if 1=1 ", "and", " 1=1 free;"},
+            {"egg if 1=1 ", "or", " 1=1 free;"}, {"egg if ", "day", "=1 free;"}, {"egg if 1=", "times", " free;"},
+            {"egg if ", "toll", "=1 free;"}, {"egg if ", "feast", "=1 free;"}, {"egg if 1>", "number", " free;"}};
+        for (String[] text : texts) {
+            String name = text[1];
+            reads(text[0] + name + text[2], 1);
+            for (int i = 0; i < name.length(); i++) {
+                for (String other : new String[] {"", "q", "" + name.charAt(i) + name.charAt(i)}) {
+                    fault(text[0] + name.substring(0, i) + other + name.substring(i + 1) + text[2], text[0].length());
+                }
+            }
+        }
     }
 
     private static void faultsOfNumbers() {

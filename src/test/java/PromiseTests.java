@@ -13,21 +13,8 @@ public final class PromiseTests {
         }
     }
 
-    /** Feeds a text and has it read. */
     private static int told(DoubledBridge x, String text) {
-        fed(x, text);
-        return x.law();
-    }
-
-    private static void fed(DoubledBridge x, String text) {
-        for (int at = 0; at < text.length(); at += 8) {
-            long eight = 0;
-            int n = Math.min(8, text.length() - at);
-            for (int i = 0; i < n; i++) {
-                eight |= (text.charAt(at + i) & 255L) << (8 * i);
-            }
-            x.feed(eight, n);
-        }
+        return Texts.law(x, text);
     }
 
     /** Plain 2/8 on 0, stream 2/8 on 0, egg 3/5 on 1, mill 2/4 on 2, market 2/9 on 3. */

@@ -61,15 +61,7 @@ public final class RoomTests {
         for (int b = 0; b < 9; b++) {
             x.bridge(b % 5 + 1, 2, 9 * b, b % 7);
         }
-        for (int at = 0; at < text.length(); at += 8) {
-            long eight = 0;
-            int n = Math.min(8, text.length() - at);
-            for (int i = n - 1; i >= 0; i--) {
-                eight = eight << 8 | text.charAt(at + i);
-            }
-            x.feed(eight, n);
-        }
-        x.law();
+        Texts.law(x, text);
         x.tale(10, 12);
         x.tale(20, 33);
         x.keep();

@@ -78,23 +78,12 @@ abstract class Sentences {
         return x;
     }
 
-    /** What THE TAPE has when a text has come to it. */
     static int feed(DoubledBridge x, String text) {
-        int has = x.many(5);
-        for (int at = 0; at < text.length(); at += 8) {
-            int n = Math.min(8, text.length() - at);
-            long eight = 0;
-            for (int i = n - 1; i >= 0; i--) {
-                eight = eight << 8 | text.charAt(at + i) & 255;
-            }
-            has = x.feed(eight, n);
-        }
-        return has;
+        return Texts.feed(x, text);
     }
 
     static int law(DoubledBridge x, String text) {
-        feed(x, text);
-        return x.law();
+        return Texts.law(x, text);
     }
 
     static String times(int n, String text) {
