@@ -12,6 +12,8 @@ public final class CrossingSentenceTests extends Sentences {
         fews();
         backs();
         riches();
+        sets();
+        quotients();
         orders();
         poors();
         fasts();
@@ -236,6 +238,35 @@ public final class CrossingSentenceTests extends Sentences {
         law(x, "egg shut;");
         due("one is shut", x.rich(20, 7), NONE);
         due("without it", x.rich(20, 3), 48);
+    }
+
+    private static void sets() {
+        says("Sets are told by bits.");
+        DoubledBridge x = five();
+        int[] one = {32, 24, 54, 32, 30};
+        for (int b = 0; b < 5; b++) {
+            due("bridge " + b, x.rich(20, 1 << b), one[b]);
+            due("bridge " + b + " as an order", x.order(20, 1 << b, 0), b);
+        }
+        for (int set = 1; set < 32; set++) {
+            due("how many of set " + set, x.order(20, set, Integer.bitCount(set) - 1) >= 0 ? 1 : 0, 1);
+            due("no more of set " + set, x.order(20, set, Integer.bitCount(set)), NONE);
+        }
+    }
+
+    private static void quotients() {
+        says("Quotients are cut towards 0.");
+        DoubledBridge x = with(road(PLAIN, 1, 0, 0, EGG, 1, 4, 0, MARKET, 1, 999, 0, PLAIN, 1, 1, 6), 1, 2, 5);
+        due("pool: 2 times 1 by 3", x.pool(0, 1, 3), 0);
+        due("the rest", x.personOf(1, 0), 2);
+        due("pool: 6 times 2 by 7", x.pool(1, 2, 3), 1);
+        due("the rest", x.personOf(2, 0), 5);
+        due("rate: -100 by 3", x.rate(1, 20, 3), 967);
+        due("rate: 100 by 3", x.rate(1, 21, 3), 1033);
+        due("half of 999", x.bridgeOf(2, 5), 499);
+        x.shelf(0, 0, 3);
+        due("shares: -8 by 3", x.act(0, 2, -8), -2);
+        due("shares: 8 by 3", x.act(0, 2, 8), 2);
     }
 
     private static void orders() {

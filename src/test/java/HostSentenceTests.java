@@ -18,6 +18,7 @@ public final class HostSentenceTests extends Sentences {
         shelves();
         takenThings();
         acts();
+        bodies();
         wraps();
         parts();
         traces();
@@ -564,6 +565,38 @@ public final class HostSentenceTests extends Sentences {
         x.bridge(kind, 7, 77, feast);
         x.shelf(0, 0, number);
         return x.act(0, act, v);
+    }
+
+    private static void bodies() {
+        says("A BRIDGE is held as a thing of its KIND; n: its number, a: its FEAST. BODIES, each with its number: bridge: 10 makes: x + n."
+            + " 11 takes: makes(x) * 2. 12 shares: x by (a - n), the rest away");
+        says("13 tells: takes(x) ^ a. plain: 20 makes: super.makes(x) * 3. stream: 30 takes: super.takes(x) - a. egg: 40 shares:"
+            + " super.shares(x + 1). mill: 50 makes: super.makes(x) ^ n. 51 tells: super.tells(x) + shares(n). market: 60 takes: 0 -"
+            + " super.takes(x). 61 shares: super.shares(x) + makes(a).");
+        for (int n = 0; n < 9; n += 2) {
+            for (int a = 0; a <= 6; a++) {
+                for (int x : new int[] {0, 1, -1, 6, -7, 100, MOST, MOST_INT, LEAST_INT}) {
+                    bodiesOf(n, a, x);
+                }
+            }
+        }
+    }
+
+    private static void bodiesOf(int n, int a, int x) {
+        int takes = (x + n) * 2;
+        int mill = ((x + n) ^ n) * 2 - a;
+        boolean parts = a == n;
+        int by = parts ? 1 : a - n;
+        int[][] want = {{(x + n) * 3, (x + n) * 3 * 2, x / by, (x + n) * 3 * 2 ^ a}, {x + n, takes - a, x / by, takes - a ^ a},
+            {(x + n) ^ n, mill, x / by, (mill ^ a) + n / by}, {x + n, takes, (x + 1) / by, takes ^ a},
+            {x + n, 0 - takes, (x + 1) / by + a + n, 0 - takes ^ a}};
+        for (int kind = 1; kind <= 5; kind++) {
+            for (int act = 0; act <= 3; act++) {
+                boolean isParted = parts && (act == 2 || act == 3 && kind == MILL);
+                due("act " + act + " of kind " + kind + ", n " + n + ", a " + a + ", x " + x, acted(kind, n, a, act, x),
+                    isParted ? BY_ZERO : want[kind - 1][act]);
+            }
+        }
     }
 
     private static void wraps() {

@@ -253,6 +253,18 @@ public final class LawSentenceTests extends Sentences {
     }
 
     private static void facts() {
+        says("VALUE: N | day | times | toll | feast | number");
+        String[] value = {"9", "day", "times", "toll", "feast", "number"};
+        // Those of the bridge that holds() asks of.
+        int[] is = {9, 2, 5, 40, 6, 1};
+        for (int left = 0; left < 6; left++) {
+            for (int right = 0; right < 6; right++) {
+                holds(value[left] + "<" + value[right], is[left] < is[right]);
+                holds(value[left] + "=" + value[right], is[left] == is[right]);
+                holds(value[left] + ">" + value[right], is[left] > is[right]);
+            }
+        }
+
         says("FACTS: DAY; TIMES, TOLL, FEAST of the BRIDGE as told, and its number.");
         holds("day=2", true);
         holds("times=5", true);

@@ -24,6 +24,7 @@ public final class RefusalSentenceTests extends Sentences {
         usedUp();
         walked();
         firstNamed();
+        constants();
         end();
     }
 
@@ -384,5 +385,13 @@ public final class RefusalSentenceTests extends Sentences {
 
         says("BAD: no such SHEET; -11; -12.");
         due("write: -11, -12", x.write(2, 9, 1), NOTHING);
+    }
+
+    private static void constants() {
+        says("public static final int BAD = -1, FULL = -2, NONE = -3, STATE = -4;");
+        due("BAD", DoubledBridge.BAD, -1);
+        due("FULL", DoubledBridge.FULL, -2);
+        due("NONE", DoubledBridge.NONE, -3);
+        due("STATE", DoubledBridge.STATE, -4);
     }
 }
